@@ -328,15 +328,15 @@ public final class RoundColumns {
             if (!town.hasWay(from, to) || kilograms[set] > load) {
                 return;
             }
-            int seconds = spent + town.waySeconds[from][to] + town.binSeconds[bin];
-            if (seconds > town.seconds) {
+            int spentNow = spent + town.waySeconds[from][to] + town.binSeconds[bin];
+            if (spentNow > town.seconds) {
                 return;
             }
-            long cost = paid + town.wayCost[from][to];
+            long paidNow = paid + town.wayCost[from][to];
             row[length] = bin;
             rowEnds[set] |= 1 << bin;
-            goHome(set, bin, seconds, cost);
-            extend(length + 1, set, seconds, cost);
+            goHome(set, bin, spentNow, paidNow);
+            extend(length + 1, set, spentNow, paidNow);
         }
 
         private void goHome(int set, int last, int spent, long paid) {

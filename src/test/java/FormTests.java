@@ -218,6 +218,7 @@ public final class FormTests {
         long before = allocated();
         RoundColumns x = new RoundColumns();
         long made = allocated() - before;
-        demand(made < 8 * MOST_CELLS_OF_OBJECT && x.steps() == 0, "an object has " + made + " bytes");
+        demand(made < 8 * MOST_CELLS_OF_OBJECT && x.steps() == 0,
+                "an object has " + made + " bytes");
     }
 }

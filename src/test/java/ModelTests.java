@@ -101,12 +101,16 @@ public final class ModelTests {
         return from[random.nextInt(from.length)];
     }
 
+    private boolean isOdd() {
+        return random.nextInt(isDense ? 40 : 12) == 0;
+    }
+
     private int odd(int usual) {
-        return random.nextInt(isDense ? 40 : 12) == 0 ? pick(ODD) : usual;
+        return isOdd() ? pick(ODD) : usual;
     }
 
     private long oddLong(long usual) {
-        return random.nextInt(isDense ? 40 : 12) == 0 ? ODD_LONG[random.nextInt(ODD_LONG.length)] : usual;
+        return isOdd() ? ODD_LONG[random.nextInt(ODD_LONG.length)] : usual;
     }
 
     private void addBin() {
