@@ -1,11 +1,5 @@
 /** For each promise of the document ordinary inputs, its edges and wrong inputs. */
-public final class PromiseTests {
-    private static final int THREW = -9;
-    private static final int PLENTY = 999;
-    private static int promise;
-    private static int wrong;
-    private static int asked;
-
+public final class PromiseTests extends Answers {
     public static void main(String[] args) {
         newObject();
         bins();
@@ -28,86 +22,11 @@ public final class PromiseTests {
         checks();
         closedLabels();
         whatWasFoundStays();
-        System.out.println(asked + " answers of promises, " + wrong + " wrong");
-        if (wrong != 0) {
-            System.exit(1);
-        }
-    }
-
-    private static void due(String call, long got, long want) {
-        asked++;
-        if (got != want) {
-            wrong++;
-            System.out.println("promise " + promise + ": " + call + " answered " + got
-                    + ", due is " + want);
-        }
-    }
-
-    private static void due(String call, boolean got, boolean want) {
-        due(call, got ? 1 : 0, want ? 1 : 0);
-    }
-
-    private static void dueFraction(String what, long top, long bottom, long wantTop,
-            long wantBottom) {
-        due(what + " numerator", top, wantTop);
-        due(what + " denominator", bottom, wantBottom);
-    }
-
-    private static void dueBound(RoundColumns x, long top, long bottom) {
-        dueFraction("bound", x.bound(0), x.bound(1), top, bottom);
-    }
-
-    private static void dueDual(RoundColumns x, int bin, long top, long bottom) {
-        dueFraction("dual " + bin, x.dual(bin, 0), x.dual(bin, 1), top, bottom);
-    }
-
-    private static void dueUsed(RoundColumns x, int k, long top, long bottom) {
-        dueFraction("used " + k, x.used(k, 0), x.used(k, 1), top, bottom);
-    }
-
-    private static void dueShare(RoundColumns x, int k, long top, long bottom) {
-        dueFraction("share " + k, x.share(k, 0), x.share(k, 1), top, bottom);
-    }
-
-    private static void dueColumn(RoundColumns x, int k, int... bins) {
-        for (int i = 0; i < bins.length; i++) {
-            due("column(" + k + ", " + i + ")", x.column(k, i), bins[i]);
-        }
-        due("column(" + k + ", " + bins.length + ")", x.column(k, bins.length), -1);
-    }
-
-    private static void dueCut(RoundColumns x, int k, int... bins) {
-        for (int i = 0; i < bins.length; i++) {
-            due("cut(" + k + ", " + i + ")", x.cut(k, i), bins[i]);
-        }
-        due("cut(" + k + ", " + bins.length + ")", x.cut(k, bins.length), -1);
-    }
-
-    private static int runOf(RoundColumns x, int steps) {
-        try {
-            return x.run(steps);
-        } catch (IllegalStateException e) {
-            return THREW;
-        }
-    }
-
-    /** Bins of 3 kilograms, each way of 1 second; 10 from and to the depot, 1 between bins. */
-    private static RoundColumns alike(int bins, long load, int vehicles) {
-        RoundColumns x = new RoundColumns();
-        for (int b = 0; b < bins; b++) {
-            x.bin(3, 0);
-        }
-        for (int a = 0; a <= bins; a++) {
-            for (int b = 0; b <= bins; b++) {
-                x.way(a, b, 1, a == 0 || b == 0 ? 10 : 1);
-            }
-        }
-        x.vehicle(load, 100, vehicles);
-        return x;
+        end("promises");
     }
 
     private static void newObject() {
-        promise = 1;
+        test = "promise 1";
         RoundColumns x = new RoundColumns();
         due("NONE", RoundColumns.NONE, -1);
         dueNothingFound(x);
@@ -128,22 +47,8 @@ public final class PromiseTests {
         due("bin of another object", other.bin(1, 1), 0);
     }
 
-    private static void dueNothingFound(RoundColumns x) {
-        due("steps()", x.steps(), 0);
-        due("columns()", x.columns(), 0);
-        due("column(0, 0)", x.column(0, 0), -1);
-        dueBound(x, 0, 0);
-        dueDual(x, 0, 0, 0);
-        dueUsed(x, 0, 0, 0);
-        dueShare(x, 0, 0, 0);
-        due("dropped(0)", x.dropped(0), false);
-        due("cuts()", x.cuts(), 0);
-        due("cut(0, 0)", x.cut(0, 0), -1);
-        due("check()", x.check(), 0);
-    }
-
     private static void bins() {
-        promise = 2;
+        test = "promise 2";
         RoundColumns x = new RoundColumns();
         due("bin(-1, 0)", x.bin(-1, 0), -1);
         due("bin(0, -1)", x.bin(0, -1), -1);
@@ -182,7 +87,7 @@ public final class PromiseTests {
     }
 
     private static void ways() {
-        promise = 3;
+        test = "promise 3";
         RoundColumns x = new RoundColumns();
         x.bin(0, 0);
         x.vehicle(0, 2000, 1);
@@ -216,7 +121,7 @@ public final class PromiseTests {
     }
 
     private static void vehicles() {
-        promise = 4;
+        test = "promise 4";
         RoundColumns x = alike(2, 3, 2);
         due("vehicle(6000, 20000, 6)", x.vehicle(6000, 20000, 6), true);
         due("vehicle(0, 0, 0)", x.vehicle(0, 0, 0), true);
@@ -245,7 +150,7 @@ public final class PromiseTests {
     }
 
     private static void branches() {
-        promise = 5;
+        test = "promise 5";
         RoundColumns x = alike(2, 6, 2);
         due("branch(0, 0, true)", x.branch(0, 0, true), false);
         due("branch(0, 2, true)", x.branch(0, 2, true), false);
@@ -291,7 +196,7 @@ public final class PromiseTests {
     }
 
     private static void clearing() {
-        promise = 6;
+        test = "promise 6";
         RoundColumns x = alike(3, 9, 3);
         x.branch(0, 1, false);
         x.branch(1, 2, false);
@@ -308,7 +213,7 @@ public final class PromiseTests {
     }
 
     private static void runs() {
-        promise = 7;
+        test = "promise 7";
         RoundColumns x = alike(6, 6000, 6);
         due("run(192) of all labels of six bins", runOf(x, 192), 0);
         due("steps()", x.steps(), 192);
@@ -326,7 +231,7 @@ public final class PromiseTests {
     }
 
     private static void runThatThrows() {
-        promise = 7;
+        test = "promise 7";
         RoundColumns x = alike(2, 6, 2);
         due("run(-1)", runOf(x, -1), THREW);
         due("run(least)", runOf(x, Integer.MIN_VALUE), THREW);
@@ -352,7 +257,7 @@ public final class PromiseTests {
     }
 
     private static void labelsCounted() {
-        promise = 8;
+        test = "promise 8";
         RoundColumns x = alike(3, 6, 2);
         due("steps() before run()", x.steps(), 0);
         runOf(x, PLENTY);
@@ -378,7 +283,7 @@ public final class PromiseTests {
     }
 
     private static void columnsCounted() {
-        promise = 9;
+        test = "promise 9";
         RoundColumns x = alike(3, 6, 2);
         due("columns() before run()", x.columns(), 0);
         runOf(x, PLENTY);
@@ -393,7 +298,7 @@ public final class PromiseTests {
     }
 
     private static void columnRounds() {
-        promise = 10;
+        test = "promise 10";
         RoundColumns x = alike(3, 9, 1);
         runOf(x, PLENTY);
         dueColumn(x, 0, 0);
@@ -421,7 +326,7 @@ public final class PromiseTests {
     }
 
     private static void bounds() {
-        promise = 11;
+        test = "promise 11";
         RoundColumns x = alike(3, 6, 2);
         dueBound(x, 0, 0);
         runOf(x, PLENTY);
@@ -445,7 +350,7 @@ public final class PromiseTests {
     }
 
     private static void duals() {
-        promise = 12;
+        test = "promise 12";
         RoundColumns x = alike(3, 6, 2);
         dueDual(x, 0, 0, 0);
         runOf(x, PLENTY);
@@ -476,7 +381,7 @@ public final class PromiseTests {
     }
 
     private static void dualsWithPairs() {
-        promise = 12;
+        test = "promise 12";
         RoundColumns x = alike(3, 9, 3);
         x.branch(0, 1, true);
         due("run", runOf(x, PLENTY), 0);
@@ -492,7 +397,7 @@ public final class PromiseTests {
     }
 
     private static void uses() {
-        promise = 13;
+        test = "promise 13";
         RoundColumns x = alike(3, 6, 2);
         dueUsed(x, 0, 0, 0);
         runOf(x, PLENTY);
@@ -526,7 +431,7 @@ public final class PromiseTests {
     }
 
     private static void shares() {
-        promise = 14;
+        test = "promise 14";
         RoundColumns x = alike(3, 9, 3);
         dueShare(x, 0, 0, 0);
         x.branch(0, 1, false);
@@ -554,7 +459,7 @@ public final class PromiseTests {
     }
 
     private static void droppedLabels() {
-        promise = 15;
+        test = "promise 15";
         RoundColumns x = new RoundColumns();
         x.bin(0, 0);
         x.bin(0, 0);
@@ -584,7 +489,7 @@ public final class PromiseTests {
     }
 
     private static void cutSets() {
-        promise = 16;
+        test = "promise 16";
         RoundColumns x = new RoundColumns();
         x.bin(3, 0);
         x.bin(4, 0);
@@ -593,7 +498,7 @@ public final class PromiseTests {
         due("cuts() before run()", x.cuts(), 0);
         runOf(x, 9);
         due("cuts()", x.cuts(), 3);
-        promise = 17;
+        test = "promise 17";
         dueCut(x, 0, 0, 2);
         dueCut(x, 1, 1, 2);
         dueCut(x, 2, 0, 1, 2);
@@ -602,7 +507,7 @@ public final class PromiseTests {
         due("cut(0, -1)", x.cut(0, -1), -1);
         due("cut(least, least)", x.cut(Integer.MIN_VALUE, Integer.MIN_VALUE), -1);
         due("cut(most, most)", x.cut(Integer.MAX_VALUE, Integer.MAX_VALUE), -1);
-        promise = 16;
+        test = "promise 16";
         x.vehicle(2, 0, 0);
         x.bin(1000, 0);
         due("cuts() before the next run()", x.cuts(), 3);
@@ -619,7 +524,7 @@ public final class PromiseTests {
     }
 
     private static void checks() {
-        promise = 18;
+        test = "promise 18";
         RoundColumns x = alike(3, 9, 3);
         due("check() before run()", x.check(), 0);
         runOf(x, PLENTY);
@@ -654,7 +559,7 @@ public final class PromiseTests {
     }
 
     private static void closedLabels() {
-        promise = 19;
+        test = "promise 19";
         RoundColumns x = alike(3, 9, 3);
         due("labelsClosed() before run()", x.labelsClosed(), false);
         due("run(0)", runOf(x, 0), THREW);
@@ -678,7 +583,7 @@ public final class PromiseTests {
     }
 
     private static void whatWasFoundStays() {
-        promise = 7;
+        test = "promise 7";
         RoundColumns x = alike(3, 6, 2);
         runOf(x, PLENTY);
         x.bin(3, 0);
