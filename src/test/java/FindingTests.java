@@ -687,6 +687,16 @@ public final class FindingTests extends Answers {
         }
     }
 
+    static void promise18ARoundThatCosts0AndIsNoneNow() {
+        RoundColumns x = heavy(1, 1000);
+        due("check()", x.check(), 0);
+        x.way(0, 1, 1, 0);
+        due("check() of a second too many", x.check(), 1);
+        x.way(0, 1, 0, 0);
+        x.vehicle(999, 0, 6);
+        due("check() of a kilogram too many", x.check(), 1);
+    }
+
     static void promise18WaysOfOtherCostsButTheSameTogether() {
         RoundColumns x = alike(2, 6, 1);
         runOf(x, PLENTY);

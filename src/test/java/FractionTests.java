@@ -437,6 +437,20 @@ public final class FractionTests extends Answers {
         dueShare(x, 62, 0, 0);
     }
 
+    static void promise14ALoadOf0HasNoneAfterAnother() {
+        RoundColumns x = lone(1, 3, 3, 1);
+        x.bin(0, 0);
+        x.way(0, 2, 0, 0);
+        x.way(2, 0, 0, 0);
+        runOf(x, 9);
+        dueShare(x, 0, 1, 1);
+        x.vehicle(0, 0, 1);
+        dueShare(x, 0, 1, 1);
+        runOf(x, 9);
+        due("columns()", x.columns(), 1);
+        dueShare(x, 0, 0, 0);
+    }
+
     static void promise14NoKilogramsOfALoadOf1() {
         RoundColumns x = free();
         x.vehicle(1, 0, 6);
